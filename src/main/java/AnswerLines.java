@@ -397,7 +397,8 @@ public final class AnswerLines {
         int beginnings() {
             int bits = 0;
             for (int row = 0; row < count; row++) {
-                if (!isEmpty(row)) bits |= 1 << head(row);
+                int head = head(row);
+                if (head != NONE) bits |= 1 << head;
             }
             return bits;
         }
@@ -406,7 +407,8 @@ public final class AnswerLines {
             int held = 0;
             for (int row = 0; row < count; row++) held |= tail(row);
             for (int row = 0; row < count; row++) {
-                if (!isEmpty(row) && !isIn(head(row), held)) return head(row);
+                int head = head(row);
+                if (head != NONE && !isIn(head, held)) return head;
             }
             return NONE;
         }
@@ -414,16 +416,12 @@ public final class AnswerLines {
         /** A free KIND stands nowhere but at beginnings, so taking it is stepping over them. */
         void take(int kind) {
             for (int row = 0; row < count; row++) {
-                if (!isEmpty(row) && head(row) == kind) heads[row]++;
+                if (head(row) == kind) heads[row]++;
             }
         }
 
-        private boolean isEmpty(int row) {
-            return heads[row] >= lengths[row];
-        }
-
         private int head(int row) {
-            return cells[row * MOST_KINDS + heads[row]];
+            return heads[row] < lengths[row] ? cells[row * MOST_KINDS + heads[row]] : NONE;
         }
 
         private int tail(int row) {
@@ -602,19 +600,17 @@ public final class AnswerLines {
             return bits;
         }
 
-        /** All ways are tried upwards as bits, so that of ways with as few KINDS the first stays. */
+        /**
+         * A KIND in DOUBT whose ABOVE ones are settled has to HAVE the NAME itself: one ABOVE it that would
+         * join its NEAREST ones would be in DOUBT as well. So there is only one fewest way, found upwards.
+         */
         static int settlers(Kinds kinds, int owners) {
-            int ways = 1 << kinds.howMany();
-            int best = ways - 1 & ~owners;
-            int fewest = MOST_KINDS + 1;
-            for (int way = 0; way < ways && fewest > 0; way++) {
-                int count = Integer.bitCount(way);
-                if ((way & owners) == 0 && count < fewest && isSettled(kinds, owners | way)) {
-                    best = way;
-                    fewest = count;
-                }
+            int added = 0;
+            int count = kinds.howMany();
+            for (int kind = 0; kind < count; kind++) {
+                if (isInDoubt(kinds, kind, owners | added)) added |= 1 << kind;
             }
-            return best;
+            return added;
         }
 
         /** A KIND without a LINE has no first one either way, so it never shifts. */
@@ -642,14 +638,6 @@ public final class AnswerLines {
 
         private static boolean isInDoubt(Kinds kinds, int kind, int owners) {
             return Integer.bitCount(nearestOf(kinds, kind, owners)) >= 2;
-        }
-
-        private static boolean isSettled(Kinds kinds, int owners) {
-            int count = kinds.howMany();
-            for (int kind = 0; kind < count; kind++) {
-                if (isInDoubt(kinds, kind, owners)) return false;
-            }
-            return true;
         }
     }
 
@@ -739,7 +727,7 @@ public final class AnswerLines {
             int end = 0;
             int place = leastPlace(rows[kind]);
             pushedTo[kind] = place;
-            for (int name = 0; name < MOST_NAMES; name++) {
+            for (int name = 0; name < MOST_NAMES && place + name < MOST_SLOTS; name++) {
                 if (!isIn(name, rows[kind])) continue;
                 slots[place + name] = 10 * kind + name;
                 end = place + name + 1;
@@ -757,7 +745,7 @@ public final class AnswerLines {
         }
 
         private boolean isOpen(int row, int place) {
-            for (int name = 0; name < MOST_NAMES; name++) {
+            for (int name = 0; name < MOST_NAMES && place + name < MOST_SLOTS; name++) {
                 if (isIn(name, row) && slots[place + name] != NONE) return false;
             }
             return true;

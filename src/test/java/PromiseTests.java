@@ -645,6 +645,14 @@ public final class PromiseTests {
         due("hits(2, 13)", x.hits(2, 13), 1);
         x.size(1, 4);
         due("hits(1, 11), one KIND only", x.hits(1, 11), -6);
+        AnswerLines y = roots(3);
+        y.size(0, 2);
+        for (int kind : new int[] {0, 1, 0, 0, 1}) y.call(0, kind);
+        due("hits(0, 2), nothing goes at a HIT", y.hits(0, 2), 3);
+        y.forget();
+        for (int kind : new int[] {0, 1, 2, 0, 2, 1, 0}) y.call(0, kind);
+        due("hits(0, 2), the very next call counts", y.hits(0, 2), 3);
+        due("hits(0, 1)", y.hits(0, 1), 1);
         for (int what : new int[] {-1, 3, 9, 14, Integer.MIN_VALUE}) due("hits(0, " + what + ")", x.hits(0, what), -2);
         due("hits(4, 3), UNKNOWN first", x.hits(4, 3), -1);
         due("hits(-1, 0)", x.hits(-1, 0), -1);
