@@ -89,6 +89,17 @@ final class EdgesOfPlaces {
         Held.due("SIZE 4: what is never called again goes", called(4, 0, 1, 2, 3, 4, 0, 1, 2).hits(0, 2), 3);
         Held.due("SIZE 3", called(3, 0, 1, 2, 3, 0, 1, 2, 3).hits(0, 2), 3);
         Held.due("no calls", called(4).hits(0, 2), 0);
+        Held.due("nothing goes at a HIT", called(2, 0, 1, 0, 0, 1).hits(0, 2), 3);
+        Held.due("all that are remembered come again: 2 goes", called(2, 1, 2, 3, 1, 2).hits(0, 2), 1);
+        AnswerLines y = called(2, 0, 1);
+        Held.calls(y, 1, 2, 3, 4);
+        Held.calls(y, 0, 0, 1);
+        Held.due("hits(0, 2), calls at another PLACE let nothing go", y.hits(0, 2), 2);
+        Held.due("hits(1, 2)", y.hits(1, 2), 0);
+        AnswerLines z = called(2, 0, 1, 2);
+        Held.calls(z, 3, 1, 1);
+        Held.calls(z, 0, 0);
+        Held.due("hits(0, 2), 1 goes, though it comes at another PLACE", z.hits(0, 2), 1);
         AnswerLines x = called(4, 0, 0, 0, 0, 0, 0, 0, 0, 0, 0, 0, 0, 0, 0, 0, 0, 0, 0, 0, 0,
             0, 0, 0, 0, 0, 0, 0, 0, 0, 0, 0, 0, 0, 0, 0, 0, 0, 0, 0, 0);
         Held.due("all but the first of 40", x.hits(0, 2), 39);
