@@ -56,6 +56,12 @@ final class EdgesOfAnswers {
         Held.row("none", Held.run(x, 0, 1), 0);
         Held.give(x, 0, 0, "1");
         Held.row("nothing of a longer BODY before it", Held.run(x, 0, 0), 0, 1);
+        AnswerLines y = Held.roots(10);
+        int[][] beside = {{9, 7}, {9, 6}, {1, 0}, {0, 7}, {0, 1}, {0, 0}};
+        for (int[] b : beside) Held.give(y, b[0], b[1], b[0] + "1234567890" + b[1]);
+        for (int[] b : beside) {
+            Held.row("full ones side by side", Held.run(y, b[0], b[1]), 0, b[0], 1, 2, 3, 4, 5, 6, 7, 8, 9, 0, b[1]);
+        }
     }
 
     private static void signs() {

@@ -103,6 +103,9 @@ final class EdgesOfPlaces {
         AnswerLines x = called(4, 0, 0, 0, 0, 0, 0, 0, 0, 0, 0, 0, 0, 0, 0, 0, 0, 0, 0, 0, 0,
             0, 0, 0, 0, 0, 0, 0, 0, 0, 0, 0, 0, 0, 0, 0, 0, 0, 0, 0, 0);
         Held.due("all but the first of 40", x.hits(0, 2), 39);
+        AnswerLines w = called(2);
+        for (int i = 0; i < 40; i++) w.call(0, i % 10);
+        Held.due("40 calls, ten all round: the 11th and each ninth behind it is a HIT", w.hits(0, 2), 4);
     }
 
     private static void needs() {
