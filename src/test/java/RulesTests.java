@@ -1,5 +1,9 @@
 import java.io.IOException;
 import java.lang.management.ManagementFactory;
+import java.lang.reflect.Constructor;
+import java.lang.reflect.Field;
+import java.lang.reflect.Method;
+import java.lang.reflect.Modifier;
 import java.nio.file.Files;
 import java.nio.file.Path;
 import java.util.ArrayList;
@@ -18,6 +22,14 @@ public final class RulesTests {
     private static final Set<String> FACE = Set.of("kind", "bare", "of", "line", "quarrel", "say", "wipe", "fault",
         "has", "drop", "answer", "next", "run", "nearest", "doubt", "settle", "shift", "column", "packed", "slot",
         "one", "call", "forget", "size", "hits", "need", "told");
+    private static final Set<String> FACE_TYPES = Set.of("int kind int int int int", "int bare int boolean",
+        "int of int int", "int line int int", "int quarrel int", "int say int", "int wipe", "int fault",
+        "int has int int", "int drop int int", "int answer int int", "int next int int int", "int run int int int",
+        "int nearest int int", "int doubt int", "int settle int int", "int shift int int", "int column int",
+        "int packed int", "int slot int", "int one int int int", "int call int int", "int forget", "int size int int",
+        "int hits int int", "int need int int", "int told int");
+    private static final Set<String> CONSTANTS = Set.of("int UNKNOWN", "int OUTSIDE", "int STATE", "int FULL", "int NO",
+        "int NONE");
     private static final Pattern METHOD = Pattern.compile(
         "^ +(public |private )?(static )?(int|boolean|char|void) (\\w+)\\(([^)]*)\\) \\{$");
     private static int wrong = 0;
@@ -79,6 +91,30 @@ public final class RulesTests {
         check(found.equals(new TreeSet<>(FACE)), "rule 1, the face: " + found);
     }
 
+    /** Rule 1: what can be seen of the class from outside is the document's face, and nothing else. */
+    private static void face() {
+        TreeSet<String> seen = new TreeSet<>();
+        for (Method m : AnswerLines.class.getDeclaredMethods()) {
+            if (Modifier.isPrivate(m.getModifiers())) continue;
+            check(Modifier.toString(m.getModifiers()).equals("public"), "rule 1, the method " + m);
+            StringBuilder types = new StringBuilder(m.getReturnType() + " " + m.getName());
+            for (Class<?> type : m.getParameterTypes()) types.append(' ').append(type);
+            seen.add(types.toString());
+        }
+        check(seen.equals(FACE_TYPES), "rule 1, the face: " + seen);
+        seen.clear();
+        for (Field f : AnswerLines.class.getDeclaredFields()) {
+            if (Modifier.isPrivate(f.getModifiers())) continue;
+            check(Modifier.toString(f.getModifiers()).equals("public static final"), "rule 1, the field " + f);
+            seen.add(f.getType() + " " + f.getName());
+        }
+        check(seen.equals(CONSTANTS), "rule 1, the constants: " + seen);
+        Constructor<?>[] makers = AnswerLines.class.getDeclaredConstructors();
+        boolean one = makers.length == 1 && makers[0].getParameterCount() == 0;
+        check(one && Modifier.isPublic(makers[0].getModifiers()), "rule 1, one public constructor without parameters");
+        check(Modifier.toString(AnswerLines.class.getModifiers()).equals("public final"), "rule 1, public and final");
+    }
+
     private static int sink = 0;
 
     private static void everyCall(AnswerLines x) {
@@ -125,6 +161,7 @@ public final class RulesTests {
         String code = withoutComments(text);
         words(code);
         methods(code);
+        face();
         room();
         System.out.println(wrong == 0 ? "all rules are kept" : wrong + " rules are broken");
         if (wrong != 0) System.exit(1);
